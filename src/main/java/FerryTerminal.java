@@ -225,8 +225,7 @@ public final class FerryTerminal {
     }
 
     private void writeLog(int kind, Ticket ticket, Sailing trip) {
-        if (turnsEver < logKinds.length && turnsEver < logTickets.length
-                && turnsEver < logSailings.length) {
+        if (turnsEver < MOST_LOGGED) {
             logKinds[turnsEver] = kind;
             logTickets[turnsEver] = ticket.number;
             logSailings[turnsEver] = trip.number;
@@ -552,8 +551,7 @@ public final class FerryTerminal {
     }
 
     public int log(int i, int what) {
-        if (!within(i, 0, turnsEver - 1) || i >= logKinds.length || i >= logTickets.length
-                || i >= logSailings.length) {
+        if (!within(i, 0, Math.min(turnsEver, MOST_LOGGED) - 1)) {
             return NONE;
         }
         switch (what) {

@@ -628,6 +628,15 @@ public final class PromisesTest {
         stands(x, 5, 1, 0, 70);
         stands(x, 6, 1, 1, 0);
         stands(x, 7, 1, 1, 30);
+        FerryTerminal y = opened(3, 100);
+        for (int length : new int[] {50, 60, 70, 30, 40, 50}) {
+            come(y, 0, length, 0, 0, 1);
+        }
+        y.settle(500);
+        stands(y, 2, 0, 2, 0);
+        stands(y, 3, 0, 2, 70);
+        stands(y, 4, 0, 1, 60);
+        stands(y, 5, 0, 0, 50);
     }
 
     private static void deckRuleFirstGap() {
@@ -715,6 +724,13 @@ public final class PromisesTest {
         }
         due("off(5)", x.off(5), true);
         due("HEIGHT 2 in lane 0", x.lane(0, 0, 0, 4), 1);
+        x.settle(500);
+        for (int i = 0; i < 6; i++) {
+            due("off(" + i + ")", i == 3 || x.off(i), true);
+        }
+        stands(x, 3, 1, 0, 0);
+        due("lane 0 of deck 1 alone", x.shipOf(0, 5), 1);
+        due("HEIGHT 2 in lane 1", x.lane(0, 0, 1, 4), 0);
         FerryTerminal y = new FerryTerminal();
         y.ship(3, 3, 100, false);
         y.sailing(0, 1000, 0);
@@ -866,6 +882,12 @@ public final class PromisesTest {
         due("no turns were logged", x.count(4), 9);
         due("tickets", x.sailingOf(0, 6), 4);
         due("again", x.depart(0), NONE);
+        FerryTerminal y = opened(1, 100);
+        come(y, 0, 40, 0, 0, 1);
+        y.book(0, 40, 0, 0);
+        y.book(0, 40, 0, 0);
+        y.settle(500);
+        due("one of three is CARRIED", y.depart(0), 1);
         due("kept()", x.kept(), 620 + 3000 + 680 + 563 - 281);
     }
 
@@ -1322,6 +1344,17 @@ public final class PromisesTest {
         y.settle(500);
         due("at 40, the last place for it", y.audit(0, 8, 40), NONE);
         due("at 41", y.audit(0, 8, 41), 0);
+        FerryTerminal z = new FerryTerminal();
+        z.ship(2, 1, 100, false);
+        z.sailing(0, 1000, 0);
+        z.open(0);
+        come(z, 0, 100, 0, 0, 0);
+        come(z, 0, 100, 0, 0, 0);
+        z.settle(500);
+        stands(z, 1, 1, 0, 0);
+        due("above each other, came at 0", z.audit(0, 0, 0), NONE);
+        due("0 over 1", z.audit(0, 6, 1), 0);
+        due("1 over 0", z.audit(1, 6, 1), 0);
     }
 
     private static void auditOfCabins() {
