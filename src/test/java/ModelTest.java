@@ -7,10 +7,11 @@ import java.util.Random;
 /**
  * Long runs of calls, each answer compared with that of a plain second program, which keeps nothing but
  * the tickets' numbers and works out all else (what covers a place, which cabin is free) anew each time.
+ * No object gets more than 512 calls: what later ones answer is free.
  */
 public final class ModelTest {
     private static final int CALLS = 512;
-    private static final int RUNS = 400;
+    private static final int RUNS = 4000;
 
     private static final class MShip {
         int decks, lanes, length;
@@ -582,7 +583,8 @@ public final class ModelTest {
 
     private static long seen = 0;
 
-    private static void same(String call, long got, long want) {
+    private void same(String call, long got, long want) {
+        calls++;
         seen++;
         if (got != want) {
             System.out.println("ModelTest: " + call + " answered " + got + ", due is " + want);
@@ -597,6 +599,7 @@ public final class ModelTest {
     private final Model m = new Model();
     private final boolean crowded;
     private final boolean busy;
+    private int calls = 0;
 
     private ModelTest(int seed) {
         random = new Random(seed);
@@ -643,11 +646,15 @@ public final class ModelTest {
         for (int i = 0; i < 3; i++) {
             makeSailing();
         }
-        for (int i = made + 3; i < CALLS; i++) {
-            change(random.nextInt(100));
-            askSome();
+        // Some runs ask all along, some change much and ask at their end.
+        int changes = random.nextBoolean() ? CALLS : 150 + random.nextInt(CALLS - 150);
+        while (calls < CALLS) {
+            if (calls >= changes || random.nextInt(changes < CALLS ? 20 : 3) == 0) {
+                ask(random.nextInt(10));
+            } else {
+                change(random.nextInt(100));
+            }
         }
-        askAll();
     }
 
     private void makeShip() {
@@ -703,54 +710,51 @@ public final class ModelTest {
         }
     }
 
-    private void askSome() {
+    private void ask(int dice) {
         int ship = aShip();
         int sailing = pick(0, m.sailings.size() - 1);
-        int ticket = pick(0, m.tickets.size() - 1);
-        for (int what = -1; what <= 13; what++) {
-            same("shipOf " + what, x.shipOf(ship, what), m.shipOf(ship, what));
-            same("sailingOf " + what, x.sailingOf(sailing, what), m.sailingOf(sailing, what));
+        int ticket = random.nextBoolean() ? pick(0, m.tickets.size() - 1) : aTicket(3);
+        int what = pick(0, 12);
+        if (dice < 2) {
             same("ticketOf " + what, x.ticketOf(ticket, what), m.ticketOf(ticket, what));
-            same("count " + what, x.count(what), m.count(what));
-            same("total " + what, x.total(sailing, what), m.total(sailing, what));
+        } else if (dice < 4) {
+            int number = pick(4, 11);
             int mask = random.nextInt(4) == 0 ? random.nextInt() : 1 << random.nextInt(9);
-            int of = random.nextBoolean() ? ticket : aTicket(3);
-            same("audit(" + of + ", " + what + ", " + mask + ")", x.audit(of, what, mask),
-                    m.audit(of, what, mask));
+            same("audit(" + ticket + ", " + number + ", " + mask + ")", x.audit(ticket, number, mask),
+                    m.audit(ticket, number, mask));
+        } else if (dice < 5) {
+            same("audit(" + ticket + ", 0, 0)", x.audit(ticket, 0, 0), m.audit(ticket, 0, 0));
+        } else if (dice < 6) {
+            int i = pick(m.log.size() - 30, m.log.size());
+            int part = pick(0, 2);
+            same("log", x.log(i, part), m.log(i, part));
+        } else if (dice < 7) {
+            int deck = pick(0, 3);
+            int lane = pick(0, 5);
+            int part = pick(0, 4);
+            same("lane " + part, x.lane(ship, deck, lane, part), m.lane(ship, deck, lane, part));
+        } else if (dice < 8) {
+            int deck = pick(0, 3);
+            int lane = pick(0, 5);
+            int place = crowded ? pick(0, 300) : pick(0, 2000);
+            same("at", x.at(ship, deck, lane, place), m.at(ship, deck, lane, place));
+        } else {
+            askCounts(random.nextInt(5), ship, sailing);
         }
-        int deck = pick(0, 3);
-        int lane = pick(0, 5);
-        int place = crowded ? pick(0, 300) : pick(0, 2000);
-        same("at", x.at(ship, deck, lane, place), m.at(ship, deck, lane, place));
-        for (int what = -1; what <= 5; what++) {
-            same("lane " + what, x.lane(ship, deck, lane, what), m.lane(ship, deck, lane, what));
-        }
-        int i = pick(m.log.size() - 5, m.log.size());
-        for (int what = -1; what <= 3; what++) {
-            same("log", x.log(i, what), m.log(i, what));
-        }
-        same("kept", x.kept(), m.kept());
     }
 
-    private void askAll() {
-        for (int t = 0; t < m.tickets.size(); t++) {
-            for (int what = 0; what < 13; what++) {
-                same("ticketOf(" + t + ", " + what + ")", x.ticketOf(t, what), m.ticketOf(t, what));
-            }
-        }
-        for (int i = 0; i <= m.log.size(); i++) {
-            for (int what = 0; what < 3; what++) {
-                same("log(" + i + ", " + what + ")", x.log(i, what), m.log(i, what));
-            }
-        }
-        for (int s = 0; s < m.ships.size(); s++) {
-            for (int d = 0; d < m.ships.get(s).decks; d++) {
-                for (int l = 0; l < m.ships.get(s).lanes; l++) {
-                    for (int what = 0; what < 5; what++) {
-                        same("lane", x.lane(s, d, l, what), m.lane(s, d, l, what));
-                    }
-                }
-            }
+    private void askCounts(int dice, int ship, int sailing) {
+        int what = pick(0, 6);
+        if (dice < 1) {
+            same("shipOf " + what, x.shipOf(ship, what), m.shipOf(ship, what));
+        } else if (dice < 2) {
+            same("sailingOf " + what, x.sailingOf(sailing, what), m.sailingOf(sailing, what));
+        } else if (dice < 3) {
+            same("count " + what, x.count(what), m.count(what));
+        } else if (dice < 4) {
+            same("total " + what, x.total(sailing, what), m.total(sailing, what));
+        } else {
+            same("kept", x.kept(), m.kept());
         }
     }
 
