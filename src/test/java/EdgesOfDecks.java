@@ -141,6 +141,11 @@ final class EdgesOfDecks extends Edges {
         mayStand(x, 0, 0, 1, 1, 1);
         mayStand(x, 0, 1, 1, 1, 1);
         due(0, x.shipOf(0, 5));
+        Terminal lane0 = somethingOnDeck1();
+        due(1, lane0.off(4));
+        due(1, lane0.shipOf(0, 5));
+        mayStand(lane0, 0, 0, 1, 1, 0);
+        mayStand(lane0, 0, 1, 1, 1, 0);
         lastLaneOfDeck1();
         deck2DoesNotCount();
     }

@@ -416,6 +416,13 @@ final class EdgesOfRecalls extends Edges {
         Terminal first = fleet(new int[] {100, 0, 0}, new int[] {100, 1, 0});
         come(first, 0, 20);
         goes(first, 1);
+        Terminal lessNumber = fleet(new int[] {100, 1001, 0}, new int[] {100, 1000, 0});
+        come(lessNumber, 1, 20);
+        lessNumber.open(1);
+        lessNumber.recall(1, 0);
+        due(1, lessNumber.settle(500));
+        logged(lessNumber, 0, 7, 0, 1);
+        due(0, lessNumber.ticketOf(0, 0));
         Terminal sameShip = fleet(new int[] {100, 1000, 0});
         sameShip.sailing(0, 1090, 0);
         come(sameShip, 0, 20);

@@ -333,6 +333,25 @@ final class EdgesOfTurns extends Edges {
             come(x, 0, 20, 1, 0, 200000);
             boards(x, 1, 0);
         }
+        lateByTheSailingThatItIsOfNow();
+    }
+
+    private static void lateByTheSailingThatItIsOfNow() {
+        Terminal x = opened(1, 100);
+        x.ship(1, 1, 100, false);
+        due(1, x.sailing(1, 1001, 0));
+        due(0, come(x, 0, 20, 1, 0, 971));
+        due(1, come(x, 0, 20, 2, 0, 972));
+        due(2, come(x, 0, 20, 0, 0, 970));
+        due(3, x.settle(3));
+        due(1, x.recall(0, 0));
+        due(3, x.settle(500));
+        x.open(1);
+        due(3 + 6, x.settle(500));
+        int[] order = {0, 2, 1};
+        for (int i = 0; i < 3; i++) {
+            logged(x, 9 + 2 * i, 1, order[i], 1);
+        }
     }
 
     // ---- promise 6
@@ -486,6 +505,20 @@ final class EdgesOfTurns extends Edges {
         x.settle(500);
         due(1, x.depart(2));
         due(1, x.open(0));
+        Terminal first = new Terminal();
+        first.ship(1, 1, 100, false);
+        first.sailing(0, 1000, 0);
+        first.sailing(0, 2000, 0);
+        due(1, first.open(0));
+        refused(first, 0, y -> y.open(1));
+        Terminal last = new Terminal();
+        last.ship(1, 1, 100, false);
+        for (int i = 0; i < 60; i++) {
+            last.sailing(0, 90 * i, 0);
+        }
+        due(1, last.open(59));
+        refused(last, 0, y -> y.open(0));
+        refused(last, 0, y -> y.open(58));
     }
 
     // ---- promise 9
