@@ -6,7 +6,9 @@ import java.lang.reflect.Modifier;
 import java.nio.file.Files;
 import java.nio.file.Path;
 import java.util.Arrays;
+import java.util.Map;
 import java.util.Set;
+import java.util.TreeMap;
 import java.util.TreeSet;
 import java.util.regex.Matcher;
 import java.util.regex.Pattern;
@@ -17,6 +19,7 @@ public final class LanguageTest {
     private static final int SOME_SIXTY_LINES = 66;
     private static final int SOME_TWELVE_CLASSES = 13;
     private static final int SOME_TWENTY_FIELDS = 22;
+    private static final int MOST_DEEP = 8;
     private static final Set<String> FACE = new TreeSet<>(Arrays.asList(
             "int ship(int,int,int,boolean)", "int cabin(int,int)", "int sailing(int,int,int)",
             "int book(int,int,int,int)", "boolean arrive(int,int)", "boolean open(int)",
@@ -40,6 +43,7 @@ public final class LanguageTest {
         must(code.chars().allMatch(c -> c < 128), "a sign above 127 (rule 4)");
         words(code);
         methodsStayShort(text);
+        callsStayShallow(code);
         face();
         int classes = 1;
         fields(FerryTerminal.class);
@@ -88,6 +92,40 @@ public final class LanguageTest {
                 from = -1;
             }
         }
+    }
+
+    /** Reads which methods each method calls; those of one name count as one, and recursion doesn't count. */
+    private static void callsStayShallow(String code) {
+        Map<String, StringBuilder> bodies = new TreeMap<>();
+        Pattern head = Pattern.compile("(?: {4}| {8})(?:public|private)[^;=(]*?(\\w+)\\(.*");
+        String name = null;
+        for (String line : code.split("\n")) {
+            Matcher starts = head.matcher(line);
+            if (starts.matches()) {
+                name = starts.group(1);
+                bodies.computeIfAbsent(name, n -> new StringBuilder());
+            } else if (name != null) {
+                bodies.get(name).append(line).append('\n');
+            }
+        }
+        must(bodies.containsKey("settle") && bodies.containsKey("hasLane"), "no methods are read");
+        for (String one : bodies.keySet()) {
+            int depth = depth(one, bodies, new TreeSet<>());
+            must(depth <= MOST_DEEP, one + "() leads to calls " + depth + " deep (rule 11)");
+        }
+    }
+
+    private static int depth(String name, Map<String, StringBuilder> bodies, Set<String> open) {
+        int deepest = 0;
+        open.add(name);
+        Matcher call = Pattern.compile("\\b(\\w+)\\(").matcher(bodies.get(name));
+        while (call.find()) {
+            if (bodies.containsKey(call.group(1)) && !open.contains(call.group(1))) {
+                deepest = Math.max(deepest, depth(call.group(1), bodies, open));
+            }
+        }
+        open.remove(name);
+        return deepest + 1;
     }
 
     private static void face() {
